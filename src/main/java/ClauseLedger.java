@@ -512,18 +512,13 @@ public final class ClauseLedger {
     private static final class Signature {
         private static final int MOST_SORTS = 5;
         private static final int MOST_SYMBOLS = 12;
-        private static final int VARIABLES = 3;
 
         private final int[] sorts = new int[MOST_SYMBOLS];
         private final int[] firsts = new int[MOST_SYMBOLS];
         private final int[] seconds = new int[MOST_SYMBOLS];
-        private final int[] variables = new int[VARIABLES];
+        private final int[] variables = {NUMBER, NUMBER, NUMBER};
         private int sortCount = 2;
         private int symbolCount = 0;
-
-        Signature() {
-            Arrays.fill(variables, NUMBER);
-        }
 
         int addSort() {
             if (sortCount >= MOST_SORTS) {
@@ -558,7 +553,7 @@ public final class ClauseLedger {
         }
 
         boolean isVariable(int v) {
-            return v >= 0 && v < VARIABLES;
+            return v >= 0 && v < variables.length;
         }
 
         int sortOfSymbol(int symbol) {

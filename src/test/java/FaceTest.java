@@ -46,7 +46,7 @@ public final class FaceTest {
         for (Method m : type.getDeclaredMethods()) {
             if (!Modifier.isPublic(m.getModifiers())) {
                 mustBePrivate(m);
-                Bench.due("private method named " + m.getName(), names.contains(m.getName()), false);
+                Bench.due("a public " + m.getName(), names.contains(m.getName()), false);
             }
         }
         for (Field f : type.getDeclaredFields()) {

@@ -10,6 +10,7 @@ public final class InstanceTest {
         orderOfNewTerms();
         tooDeepAndNoRoom();
         sharedParts();
+        farBeyondTheRoom();
         Bench.end();
     }
 
@@ -138,6 +139,23 @@ public final class InstanceTest {
         int z = b.read("(! x (c x (d x)))");
         Bench.due("no room for terms", b.termCount() > 98
                 ? Bench.outcome(() -> b.ledger.instance(z, three)) : "room", Bench.NO_ROOM);
+    }
+
+    /** Which exception is due hangs on a part that comes after more terms than there is room for. */
+    private static void farBeyondTheRoom() {
+        Bench b = bench();
+        int u = b.read("(d ".repeat(5) + "a" + ")".repeat(5));
+        int small = b.read("a");
+        String many = "(= x x)";
+        for (int i = 1; i <= 5; i++) {
+            many = "(& " + many + " (c (+ x " + i + ") x))";
+        }
+        int t = b.read("(! x " + many + ")");
+        for (int i = 20; b.termCount() < 100; i++) {
+            b.read(String.valueOf(i));
+        }
+        Bench.due("too deep", Bench.outcome(() -> b.ledger.instance(t, u)), Bench.TOO_GREAT);
+        Bench.due("no room", Bench.outcome(() -> b.ledger.instance(t, small)), Bench.NO_ROOM);
     }
 
     /** A term whose text is far longer than a draft, each part of it there once. */

@@ -156,6 +156,8 @@ public final class LinearTest {
         // 10^9 itself is not too great; the difference and the multiple of it are.
         Bench.due("10^9", linear(bench(), of("(< (* -20000 50000) 0)"), 1),
                 "[(< (* -20000 50000) 0)]");
+        Bench.due("10^9 on the right", linear(bench(), of("(< 0 (* 20000 50000))"), 1),
+                "[(< 0 (* 20000 50000))]");
         Bench.due("10^9 below", linear(bench(), of("(< (* 1/20000 (* 1/50000 -1)) 0)"), 1),
                 "[(< (* 1/20000 (* 1/50000 -1)) 0)]");
         Bench.due("the excess", linear(bench(), of("(< (* -20000 50000) 1)"), 1),
@@ -164,6 +166,8 @@ public final class LinearTest {
                 linear(bench(), of("(< (* -20000 50000) 0)"), 2), Bench.TOO_GREAT);
         Bench.due("all added", linear(bench(),
                 of("(< (* -20000 50000) 0)", "(< 0 1/2)"), 1, 2), Bench.TOO_GREAT);
+        Bench.due("a multiple, though not all added", linear(bench(),
+                of("(< (* -20000 50000) 0)", "(< (* 10000 50000) 0)"), 1, 3), Bench.TOO_GREAT);
         Bench.due("added in order", linear(bench(),
                 of("(< (* -20000 50000) 0)", "(< 0 1)", "(< 1 0)"), 1, 1, 1), Bench.TOO_GREAT);
         Bench.due("in another order", linear(bench(),

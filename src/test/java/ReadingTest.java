@@ -113,8 +113,8 @@ public final class ReadingTest {
     private static void textsThatAreNone() {
         Bench b = bench();
         Bench.due("an empty draft", Bench.outcome(b.ledger::term), Bench.WRONG);
-        String[] none = {"g", "m", "w", "A", "(g a)", "(m a)", "(a)", "(a )", "d", "(d)", "(d )",
-            "(d c c)", "(e c)", "(e c b b)", "(~a)", "(~  a)", "( ~ a)", "(~ a )", "(~ a", "(~ a))",
+        String[] none = {"g", "m", "w", "A", "(g a)", "(g a a)", "(l a)", "(m a)", "(a)", "(a )",
+            "d", "(d)", "(d )", "(d c c)", "(e c)", "(e c b b)", "(~a)", "(~  a)", "( ~ a)", "(~ a )", "(~ a", "(~ a))",
             "~ a", "(~ a) ", "(& a)", "(& a a a)", "(+ b)", "(+ b b", "()", "(", ")", "(!",
             "(! a)", "(! x)", "(! b a)", "(! xa)", "(! x  a)", "(! x a a)", "(! x a", "(! w a)",
             "(b)", "(1)", "(x)", "((~ a))", "(- b b)", "ab", "(> b b)"};

@@ -5,6 +5,7 @@ public final class ScopeTest {
         closing();
         assumptionsOnce();
         onlyItsOwn();
+        onlyWhatWasAssumed();
         notClosable();
         whatStands();
         closeTooDeep();
@@ -89,6 +90,29 @@ public final class ScopeTest {
         step = b.ledger.close();
         Bench.due("the outer one", b.clause(step), "[(~ b), (~ c), c]");
         Bench.due("where", b.ledger.scope(step), 0);
+    }
+
+    private static void onlyWhatWasAssumed() {
+        Bench b = new Bench();
+        b.ledger.symbol(0, -1, -1);
+        int a = b.read("a");
+        int equal = b.read("(= a a)");
+        int less = b.read("(< 1 2)");
+        int all = b.read("(! x a)");
+        int one = b.read("1");
+        int not = b.read("(~ a)");
+        int i = b.ledger.assume(a);
+        int j = b.ledger.widen(b.ledger.assume(not), equal);
+        Bench.Call[] rules = {() -> b.ledger.cut(i, a, j), () -> b.ledger.widen(i, not),
+            () -> b.ledger.meaning(equal, 2), () -> b.ledger.same(a),
+            () -> b.ledger.chain(equal, equal), () -> b.ledger.turn(equal),
+            () -> b.ledger.replace(not, not), () -> b.ledger.linear(less, -1, -1, 1, 0, 0),
+            () -> b.ledger.instance(all, one)};
+        for (Bench.Call rule : rules) {
+            b.ledger.open();
+            String clause = b.entered(rule);
+            Bench.due("nothing is put before", b.clause(b.ledger.close()), clause);
+        }
     }
 
     private static void notClosable() {

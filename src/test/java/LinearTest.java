@@ -1,208 +1,303 @@
-/** Promise 15: linear, with the sums of numbers. */
+/** Promise 15, a sentence at a time: linear. What a sum is, is SumTest's matter. */
 public final class LinearTest {
+    private static final int LOWEST = Integer.MIN_VALUE;
+    private static final int HIGHEST = Integer.MAX_VALUE;
+
     public static void main(String[] args) {
-        granted();
-        notGranted();
-        formsAndFactors();
-        noneAndMissing();
-        toldTwice();
-        tooGreat();
-        justNotTooGreat();
-        zeroFactorsAreLookedAt();
-        noRoom();
+        whichTruths();
+        excesses();
+        granting();
+        wrongOnes();
         Bench.end();
     }
 
-    /** a, b, c are numbers; d is a truth; e takes a number to a number. */
+    private static void whichTruths() {
+        Bench.holds("One to three truths (u and v may be -1 for none;", LinearTest::oneToThree);
+        Bench.holds("it is IllegalArgumentException if u is and v is not;",
+                LinearTest::thirdWithoutSecond);
+        Bench.holds("other numbers below 0 are no terms;", LinearTest::numbersBelowZero);
+        Bench.holds("there is no such term or no such step that stands.",
+                LinearTest::noSuchTerms);
+        Bench.holds("one told twice has both factors, and is joined once)",
+                LinearTest::toldTwice);
+        Bench.holds("one truth may be given more than once, each time with its factor",
+                LinearTest::toldThrice);
+        Bench.holds("The truths are joined in order.", LinearTest::joinedInOrder);
+    }
+
+    private static void excesses() {
+        Bench.holds("(< p q) with a factor from 0 on, whose EXCESS, the sum of p with -1 times"
+                + " that of q added, is above 0 if it does not hold;", LinearTest::excessOfLess);
+        Bench.holds("(~ (< p q)) with a factor from 0 on, whose excess, the sum of q with -1 times"
+                + " that of p added, is from 0 on if it does not hold;",
+                LinearTest::excessOfNotLess);
+        Bench.holds("(~ (= p q)) of numbers with any factor, whose excess is the sum of p with -1"
+                + " times that of q added, 0 if it does not hold.", LinearTest::excessOfNotEqual);
+    }
+
+    private static void granting() {
+        Bench.holds("Granted if the excesses times their factors, added in order to 0, leave no"
+                + " atom", LinearTest::noAtomIsLeft);
+        Bench.holds("and a constant that is below 0", LinearTest::constantBelowZero);
+        Bench.holds("or 0 while a truth (< p q) has a factor above 0.",
+                LinearTest::constantZero);
+        Bench.holds("with all factors 0 it is not granted;", LinearTest::allFactorsZero);
+        Bench.holds("sums are looked at with a factor 0, too;", LinearTest::sumsOfFactorZero);
+        Bench.holds("if one is too great, it is not asked whether it is granted.",
+                LinearTest::tooGreatBeforeGranted);
+    }
+
+    private static void wrongOnes() {
+        Bench.holds("IllegalArgumentException for other truths", LinearTest::otherTruths);
+        Bench.holds("factors below 0 where they are not allowed", LinearTest::factorsBelowZero);
+        Bench.holds("and factors that are not -99 .. 99", LinearTest::factorsOutside);
+        Bench.holds("(those of no truth do not count;", LinearTest::factorsOfNoTruth);
+    }
+
+    /** a, b, c are numbers; d is a truth; e takes a number to a number; f is of sort 2. */
     private static Bench bench() {
-        Bench b = new Bench();
-        for (int i = 0; i < 3; i++) {
-            b.ledger.symbol(1, -1, -1);
-        }
-        b.ledger.symbol(0, -1, -1);
-        b.ledger.symbol(1, 1, -1);
+        Bench b = new Bench().symbols(3, 1).symbols(1, 0);
+        b.symbol(1, 1, -1);
+        b.symbol(b.sort(), -1, -1);
         return b;
-    }
-
-    private static String linear(Bench b, String[] texts, int... factors) {
-        int[] t = {-1, -1, -1};
-        for (int i = 0; i < texts.length; i++) {
-            t[i] = b.read(texts[i]);
-        }
-        return b.entered(() -> b.ledger.linear(t[0], t[1], t[2], factors[0],
-                factors.length > 1 ? factors[1] : 0, factors.length > 2 ? factors[2] : 0));
-    }
-
-    private static void due(String[] texts, boolean granted, int... factors) {
-        String all = String.join(", ", texts);
-        Bench.due("linear " + all, linear(bench(), texts, factors),
-                granted ? "[" + all + "]" : Bench.WRONG);
     }
 
     private static String[] of(String... texts) {
         return texts;
     }
 
-    private static void granted() {
-        due(of("(< a a)"), true, 1);
-        due(of("(< 1 2)"), true, 99);
-        due(of("(~ (< 2 1))"), true, 1);
-        due(of("(~ (= 1 2))"), true, 1);
-        due(of("(~ (= 2 1))"), true, -1);
-        due(of("(< a b)", "(< b a)"), true, 1, 1);
-        due(of("(~ (< a b))", "(< a b)"), true, 1, 1);
-        due(of("(~ (< (+ a 1) b))", "(< a b)"), true, 1, 1);
-        due(of("(~ (< (+ a 1) b))", "(~ (< b a))"), true, 1, 1);
-        due(of("(~ (< a b))", "(~ (< b c))", "(< a c)"), true, 1, 1, 1);
-        due(of("(~ (= a b))", "(~ (= b c))", "(< a c)"), true, -1, -1, 1);
-        due(of("(~ (= (* 1/2 a) 1/3))", "(< a 2/3)"), true, -2, 1);
-        due(of("(~ (< (* 3 a) b))", "(< (* 6 a) (* 2 b))"), true, 2, 1);
-        due(of("(< (* 0 a) 0)"), true, 1);
-        due(of("(< (e a) (e a))"), true, 1);
-        due(of("(< (+ x (* 2 y)) (+ y (+ x y)))"), true, 5);
-        due(of("(< 1 2)", "(~ (< a b))"), true, 1, 0);
-        due(of("(~ (< a b))", "(< 1 2)"), true, 0, 1);
+    private static void due(String[] texts, String want, int... factors) {
+        Bench b = bench();
+        int[] t = {-1, -1, -1};
+        for (int i = 0; i < texts.length; i++) {
+            t[i] = b.read(texts[i]);
+        }
+        int terms = b.termCount();
+        Bench.due("linear " + String.join(", ", texts), b.entered(() -> b.linear(t[0], t[1], t[2],
+                factors[0], factors.length > 1 ? factors[1] : 0,
+                factors.length > 2 ? factors[2] : 0)), want);
+        Bench.due("terms", b.termCount(), terms);
     }
 
-    private static void notGranted() {
-        due(of("(< a b)"), false, 1);
-        due(of("(< 2 1)"), false, 1);
-        due(of("(~ (< 1 2))"), false, 1);
-        due(of("(~ (< 1 1))"), false, 1);
-        due(of("(~ (= 1 1))"), false, 5);
-        due(of("(~ (= 1 2))"), false, -1);
-        due(of("(~ (= 1 2))"), false, 0);
-        due(of("(< 1 2)"), false, 0);
-        due(of("(< a a)"), false, 0);
-        due(of("(~ (< a b))", "(~ (< b a))"), false, 1, 1);
-        due(of("(~ (< 1 1))", "(< 1 1)"), false, 1, 0);
-        due(of("(~ (< a b))", "(< a b)"), false, 2, 1);
-        due(of("(< (e a) (e b))"), false, 1);
-        due(of("(< x y)", "(< y z)"), false, 1, 1);
+    private static void granted(String[] texts, int... factors) {
+        due(texts, "[" + String.join(", ", texts) + "]", factors);
     }
 
-    private static void formsAndFactors() {
-        due(of("d"), false, 1);
-        due(of("(= 1 2)"), false, 1);
-        due(of("(~ d)"), false, 1);
-        due(of("(~ (= d d))"), false, 1);
-        due(of("(~ (~ (< 1 2)))"), false, 1);
-        due(of("(< 1 2)", "d"), false, 1, 0);
-        due(of("(< 1 2)", "(< 1 2)", "a"), false, 1, 1, 0);
-        due(of("(< 1 2)"), false, -1);
-        due(of("(~ (< 2 1))"), false, -1);
-        due(of("(< 1 2)"), false, 100);
-        due(of("(~ (= 2 1))"), true, -99);
-        due(of("(~ (= 2 1))"), false, -100);
-        due(of("(~ (= 1 2))"), true, 99);
-        due(of("(~ (= 1 2))"), false, 100);
-        due(of("(< 1 2)", "(< 1 2)"), false, 1, Integer.MIN_VALUE);
+    private static void wrong(String[] texts, int... factors) {
+        due(texts, Bench.WRONG, factors);
     }
 
-    private static void noneAndMissing() {
+    private static void oneToThree() {
+        granted(of("(< a a)"), 1);
+        granted(of("(< a b)", "(< b a)"), 1, 1);
+        granted(of("(~ (< a b))", "(~ (< b c))", "(< a c)"), 1, 1, 1);
+        granted(of("(< 1 2)", "(~ (< a b))", "(~ (= a c))"), 1, 0, 0);
+        granted(of("(~ (< a b))", "(< 1 2)"), 0, 1);
+        granted(of("(~ (< a b))", "(< b c)", "(< 1 2)"), 0, 0, 1);
+    }
+
+    private static void thirdWithoutSecond() {
         Bench b = bench();
         int t = b.read("(< 1 2)");
-        int d = b.read("d");
-        Bench.due("factors of none", b.entered(() -> b.ledger.linear(t, -1, -1, 1, 500, -7)),
-                "[(< 1 2)]");
-        Bench.due("t none", Bench.outcome(() -> b.ledger.linear(-1, t, t, 1, 1, 1)),
-                Bench.MISSING);
-        Bench.due("u none, v not", Bench.outcome(() -> b.ledger.linear(t, -1, t, 1, 1, 1)),
-                Bench.WRONG);
-        Bench.due("u none, v missing", Bench.outcome(() -> b.ledger.linear(t, -1, 99, 1, 1, 1)),
-                Bench.MISSING);
-        Bench.due("u -2", Bench.outcome(() -> b.ledger.linear(t, -2, -1, 1, 1, 1)),
-                Bench.MISSING);
-        Bench.due("v -2", Bench.outcome(() -> b.ledger.linear(d, t, -2, 1, 1, 1)),
-                Bench.MISSING);
-        Bench.due("t beyond", Bench.outcome(() -> b.ledger.linear(99, t, -1, 1, 1, 1)),
-                Bench.MISSING);
+        int u = b.read("(< a b)");
+        b.refuses("v is t", () -> b.linear(t, -1, t, 1, 1, 1), Bench.WRONG);
+        b.refuses("v has factor 0", () -> b.linear(t, -1, u, 1, 0, 0), Bench.WRONG);
+        b.enters(() -> b.linear(t, u, -1, 1, 0, 0), "[(< 1 2), (< a b)]");
+    }
+
+    private static void numbersBelowZero() {
+        Bench b = bench();
+        int t = b.read("(< 1 2)");
+        for (int none : new int[] {-1, -2, LOWEST}) {
+            b.refuses("t " + none, () -> b.linear(none, t, t, 1, 1, 1), Bench.MISSING);
+        }
+        for (int none : new int[] {-2, -3, LOWEST}) {
+            b.refuses("u " + none, () -> b.linear(t, none, -1, 1, 1, 1), Bench.MISSING);
+            b.refuses("u " + none, () -> b.linear(t, none, t, 1, 1, 1), Bench.MISSING);
+            b.refuses("v " + none, () -> b.linear(t, t, none, 1, 1, 1), Bench.MISSING);
+            b.refuses("v " + none, () -> b.linear(t, -1, none, 1, 1, 1), Bench.MISSING);
+        }
+        b.refuses("all none", () -> b.linear(-1, -1, -1, 1, 1, 1), Bench.MISSING);
+    }
+
+    private static void noSuchTerms() {
+        Bench b = bench();
+        int t = b.read("(< 1 2)");
+        for (int none : new int[] {t + 1, 100, HIGHEST}) {
+            b.refuses("t " + none, () -> b.linear(none, -1, -1, 1, 1, 1), Bench.MISSING);
+            b.refuses("u " + none, () -> b.linear(t, none, -1, 1, 1, 1), Bench.MISSING);
+            b.refuses("v " + none, () -> b.linear(t, t, none, 1, 1, 1), Bench.MISSING);
+            b.refuses("v " + none + " without u", () -> b.linear(t, -1, none, 1, 1, 1),
+                    Bench.MISSING);
+            b.refuses("v " + none + " with factor 0", () -> b.linear(t, t, none, 1, 1, 0),
+                    Bench.MISSING);
+        }
     }
 
     private static void toldTwice() {
         Bench b = bench();
         int t = b.read("(~ (= a b))");
         int u = b.read("(< (* 3 a) (* 3 b))");
-        Bench.due("both factors count", b.entered(() -> b.ledger.linear(t, t, u, -1, -2, 1)),
-                "[(~ (= a b)), (< (* 3 a) (* 3 b))]");
-        Bench.due("not one of them", b.entered(() -> b.ledger.linear(t, t, u, -1, -3, 1)),
-                Bench.WRONG);
+        String row = "[(~ (= a b)), (< (* 3 a) (* 3 b))]";
+        b.enters(() -> b.linear(t, t, u, -1, -2, 1), row);
+        b.enters(() -> b.linear(t, u, t, 2, 1, -5), row);
+        b.enters(() -> b.linear(u, t, t, 1, -99, 96), "[(< (* 3 a) (* 3 b)), (~ (= a b))]");
+        b.refuses("one of them is too many", () -> b.linear(t, t, u, -1, -3, 1), Bench.WRONG);
+        b.refuses("the second alone", () -> b.linear(t, t, u, -1, -1, 1), Bench.WRONG);
+        int same = b.read("(< a a)");
+        b.enters(() -> b.linear(same, same, -1, 0, 1, 0), "[(< a a)]");
+        b.enters(() -> b.linear(same, same, -1, 1, 0, 0), "[(< a a)]");
     }
 
-    private static void tooGreat() {
-        String deep = "(* 99999 (* 99999 a))";
-        Bench.due("coefficient", linear(bench(), of("(< " + deep + " b)"), 1), Bench.TOO_GREAT);
-        Bench.due("on the right", linear(bench(), of("(< b " + deep + ")"), 1), Bench.TOO_GREAT);
-        Bench.due("below 0", linear(bench(), of("(< (* -99999 (* 99999 a)) b)"), 1),
-                Bench.TOO_GREAT);
-        Bench.due("denominator", linear(bench(), of("(< (* 1/99999 (* 1/99999 a)) b)"), 1),
-                Bench.TOO_GREAT);
-        Bench.due("denominator of a sum", linear(bench(),
-                of("(< (+ 1/99999 1/99998) (* 1/2 b))"), 1), Bench.TOO_GREAT);
-        Bench.due("what cancels later", linear(bench(), of("(< (* 0 " + deep + ") 1)"), 1),
-                Bench.TOO_GREAT);
-        Bench.due("constant", linear(bench(), of("(< (* 99999 99999) b)"), 1), Bench.TOO_GREAT);
-        Bench.due("constant", linear(bench(), of("(< 0 (* -25000 50000))"), 1),
-                Bench.TOO_GREAT);
-        Bench.due("the same sums on both sides",
-                linear(bench(), of("(< " + deep + " " + deep + ")"), 1), Bench.TOO_GREAT);
-        Bench.due("a form that is wrong comes first",
-                linear(bench(), of("(< " + deep + " b)", "d"), 1, 1), Bench.WRONG);
-        Bench.due("a factor that is wrong comes first",
-                linear(bench(), of("(< " + deep + " b)"), -1), Bench.WRONG);
-    }
-
-    private static void justNotTooGreat() {
-        // 10^9 itself is not too great; the difference and the multiple of it are.
-        Bench.due("10^9", linear(bench(), of("(< (* -20000 50000) 0)"), 1),
-                "[(< (* -20000 50000) 0)]");
-        Bench.due("10^9 on the right", linear(bench(), of("(< 0 (* 20000 50000))"), 1),
-                "[(< 0 (* 20000 50000))]");
-        Bench.due("10^9 below", linear(bench(), of("(< (* 1/20000 (* 1/50000 -1)) 0)"), 1),
-                "[(< (* 1/20000 (* 1/50000 -1)) 0)]");
-        Bench.due("the excess", linear(bench(), of("(< (* -20000 50000) 1)"), 1),
-                Bench.TOO_GREAT);
-        Bench.due("the excess times the factor",
-                linear(bench(), of("(< (* -20000 50000) 0)"), 2), Bench.TOO_GREAT);
-        Bench.due("all added", linear(bench(),
-                of("(< (* -20000 50000) 0)", "(< 0 1/2)"), 1, 2), Bench.TOO_GREAT);
-        Bench.due("a multiple, though not all added", linear(bench(),
-                of("(< (* -20000 50000) 0)", "(< (* 10000 50000) 0)"), 1, 3), Bench.TOO_GREAT);
-        Bench.due("added in order", linear(bench(),
-                of("(< (* -20000 50000) 0)", "(< 0 1)", "(< 1 0)"), 1, 1, 1), Bench.TOO_GREAT);
-        Bench.due("in another order", linear(bench(),
-                of("(< (* -20000 50000) 0)", "(< 1 0)", "(< 0 1)"), 1, 1, 1),
-                "[(< (* -20000 50000) 0), (< 1 0), (< 0 1)]");
-        Bench.due("lowest terms count", linear(bench(),
-                of("(< (* 1/99999 (* 99999 a)) a)"), 99), "[(< (* 1/99999 (* 99999 a)) a)]");
-    }
-
-    private static void zeroFactorsAreLookedAt() {
+    private static void toldThrice() {
         Bench b = bench();
-        int great = b.read("(~ (= (* 99999 99999) b))");
-        int fine = b.read("(< 1 2)");
-        int not = b.read("(< 2 1)");
-        Bench.due("factor 0", Bench.outcome(() -> b.ledger.linear(fine, great, -1, 1, 0, 0)),
-                Bench.TOO_GREAT);
-        Bench.due("it is not asked whether it is granted",
-                Bench.outcome(() -> b.ledger.linear(not, great, -1, 1, 0, 0)), Bench.TOO_GREAT);
-        Bench.due("again", Bench.outcome(() -> b.ledger.linear(great, -1, -1, 0, 0, 0)),
-                Bench.TOO_GREAT);
-        Bench.due("without it", Bench.outcome(() -> b.ledger.linear(fine, -1, -1, 1, 0, 0)), 0);
+        int t = b.read("(~ (= 1 2))");
+        b.enters(() -> b.linear(t, t, t, 1, 1, -1), "[(~ (= 1 2))]");
+        b.enters(() -> b.linear(t, t, t, 99, 99, 99), "[(~ (= 1 2))]");
+        b.refuses("0 in all", () -> b.linear(t, t, t, 1, -2, 1), Bench.WRONG);
+        b.refuses("below 0 in all", () -> b.linear(t, t, t, 1, -3, 1), Bench.WRONG);
     }
 
-    private static void noRoom() {
+    private static void joinedInOrder() {
+        granted(of("(< b a)", "(< a b)"), 1, 1);
+        granted(of("(< a c)", "(~ (< b c))", "(~ (< a b))"), 1, 1, 1);
+        granted(of("(~ (= a c))", "(< 1 2)", "(~ (< a b))"), 0, 1, 0);
+    }
+
+    private static void excessOfLess() {
+        granted(of("(< 1 2)"), 1);
+        granted(of("(< 1 2)"), 99);
+        granted(of("(< 1 1)"), 1);
+        wrong(of("(< 2 1)"), 1);
+        granted(of("(< (+ a 1) (+ 2 a))"), 1);
+        granted(of("(< 2 1)", "(< 1 2)"), 0, 1);
+        granted(of("(< 2 1)", "(< 1 3)"), 1, 1);
+    }
+
+    private static void excessOfNotLess() {
+        granted(of("(~ (< 2 1))"), 1);
+        granted(of("(~ (< 2 1))"), 99);
+        wrong(of("(~ (< 1 1))"), 1);
+        wrong(of("(~ (< 1 2))"), 1);
+        granted(of("(~ (< (+ a 1) b))", "(~ (< b a))"), 1, 1);
+        granted(of("(~ (< 1 2))", "(< 1 2)"), 0, 1);
+        granted(of("(~ (< (+ a 1) b))", "(< a b)"), 1, 1);
+    }
+
+    private static void excessOfNotEqual() {
+        granted(of("(~ (= 1 2))"), 1);
+        granted(of("(~ (= 1 2))"), 99);
+        granted(of("(~ (= 2 1))"), -1);
+        granted(of("(~ (= 2 1))"), -99);
+        wrong(of("(~ (= 1 2))"), -1);
+        wrong(of("(~ (= 2 1))"), 1);
+        wrong(of("(~ (= 1 1))"), 1);
+        wrong(of("(~ (= 1 1))"), -1);
+        granted(of("(~ (= a b))", "(~ (= b c))", "(< a c)"), -1, -1, 1);
+        granted(of("(~ (= (* 1/2 a) 1/3))", "(< a 2/3)"), -2, 1);
+        wrong(of("(~ (= d d))"), 1);
+        wrong(of("(~ (= f f))"), 1);
+        wrong(of("(~ (= f f))", "(< 1 2)"), 0, 1);
+    }
+
+    private static void noAtomIsLeft() {
+        wrong(of("(< a b)"), 1);
+        wrong(of("(< a (+ a (* 1/99999 b)))"), 1);
+        wrong(of("(~ (< a b))", "(< a b)"), 2, 1);
+        wrong(of("(~ (< a b))", "(~ (< b a))"), 1, 1);
+        wrong(of("(< (e a) (e b))"), 1);
+        wrong(of("(< x y)", "(< y z)"), 1, 1);
+        wrong(of("(< (+ a 1) 5)"), 1);
+        granted(of("(~ (< (* 3 a) b))", "(< (* 6 a) (* 2 b))"), 2, 1);
+        granted(of("(< a b)", "(< b c)", "(< c a)"), 7, 7, 7);
+        granted(of("(< (* 99 a) b)", "(< b (* 99 a))"), 99, 99);
+    }
+
+    private static void constantBelowZero() {
+        granted(of("(~ (< 2 1))"), 1);
+        granted(of("(~ (< 1/31622 1/31623))"), 1);
+        granted(of("(~ (< 1 0))", "(~ (= 0 1))"), 1, 1);
+        wrong(of("(~ (< 1/31623 1/31622))"), 1);
+        wrong(of("(< 1 0)", "(< 0 1/2)"), 1, 1);
+        granted(of("(< 1 0)", "(< 0 1/2)"), 1, 3);
+    }
+
+    private static void constantZero() {
+        granted(of("(< a a)"), 1);
+        granted(of("(~ (< a b))", "(< a b)"), 1, 1);
+        granted(of("(< 1 0)", "(< 0 1/2)"), 1, 2);
+        wrong(of("(~ (< a a))"), 1);
+        wrong(of("(~ (= a a))"), 5);
+        wrong(of("(~ (< 1 1))", "(< 1 1)"), 1, 0);
+        wrong(of("(< 1 1)", "(~ (= a a))"), 0, 1);
+        granted(of("(~ (= a a))", "(~ (< b b))", "(< c c)"), 1, 1, 1);
+        wrong(of("(~ (< a b))", "(~ (< b a))", "(< c c)"), 1, 1, 0);
+    }
+
+    private static void allFactorsZero() {
+        wrong(of("(< 1 2)"), 0);
+        wrong(of("(~ (< 2 1))"), 0);
+        wrong(of("(~ (= 1 2))"), 0);
+        wrong(of("(< a a)", "(< b b)", "(< 1 2)"), 0, 0, 0);
+    }
+
+    private static void sumsOfFactorZero() {
+        String great = "(~ (= (* 99999 99999) b))";
+        due(of("(< 1 2)", great), Bench.TOO_GREAT, 1, 0);
+        due(of(great, "(< 1 2)"), Bench.TOO_GREAT, 0, 1);
+        due(of("(< 1 2)", "(< 1 3)", "(< b (* 99999 (* 99999 a)))"), Bench.TOO_GREAT, 1, 1, 0);
+        due(of("(< 1 2)", "(< (* -20000 50000) 1)"), Bench.TOO_GREAT, 1, 0);
+    }
+
+    private static void tooGreatBeforeGranted() {
+        String great = "(< (* 99999 99999) b)";
+        due(of(great), Bench.TOO_GREAT, 1);
+        due(of(great), Bench.TOO_GREAT, 0);
+        due(of("(< 2 1)", great), Bench.TOO_GREAT, 1, 0);
+        due(of(great, great, great), Bench.TOO_GREAT, 0, 0, 0);
+    }
+
+    private static void otherTruths() {
+        String[] others = {"d", "(= 1 2)", "(= a a)", "(~ d)", "(~ (= d d))", "(~ (= f f))",
+            "(~ (~ (< 1 2)))", "(~ (~ (= 1 2)))", "(& (< 1 2) (< 1 2))", "(! x (< 1 2))",
+            "(~ (! x (< 1 2)))", "a", "x", "1", "(+ a 1)"};
+        for (String other : others) {
+            wrong(of(other), 1);
+            wrong(of(other, "(< 1 2)"), 0, 1);
+            wrong(of("(< 1 2)", other), 1, 0);
+            wrong(of("(< 1 2)", "(< 1 3)", other), 1, 1, 0);
+        }
+    }
+
+    private static void factorsBelowZero() {
+        wrong(of("(< 1 2)"), -1);
+        wrong(of("(~ (< 2 1))"), -1);
+        wrong(of("(< 2 1)"), -1);
+        wrong(of("(~ (< 1 2))"), -1);
+        wrong(of("(< 1 2)", "(< 3 1)"), 1, -1);
+        wrong(of("(< 1 2)", "(< 1 3)", "(~ (< 3 1))"), 1, 1, -1);
+        granted(of("(< 1 2)", "(~ (= 3 1))"), 1, -1);
+    }
+
+    private static void factorsOutside() {
+        for (int factor : new int[] {100, -100, 1000, LOWEST, HIGHEST}) {
+            wrong(of("(~ (= " + (factor > 0 ? "1 2" : "2 1") + "))"), factor);
+            wrong(of("(< 1 2)", "(~ (= a a))"), 1, factor);
+            wrong(of("(< 1 2)", "(< 1 3)", "(~ (= a a))"), 1, 1, factor);
+        }
+        wrong(of("(< 1 2)"), 100);
+        wrong(of("(~ (< 2 1))"), 100);
+        wrong(of("(~ (< 2 1))"), HIGHEST);
+        granted(of("(< 1 2)", "(~ (= a a))", "(~ (= b b))"), 99, -99, 99);
+    }
+
+    private static void factorsOfNoTruth() {
         Bench b = bench();
         int t = b.read("(< 1 2)");
-        int great = b.read("(< (* 99999 99999) b)");
-        int not = b.read("(< 2 1)");
-        for (int i = 0; i < 60; i++) {
-            b.ledger.linear(t, -1, -1, 1, 0, 0);
+        for (int factor : new int[] {100, -1, -100, LOWEST, HIGHEST}) {
+            b.enters(() -> b.linear(t, -1, -1, 1, factor, factor), "[(< 1 2)]");
+            b.enters(() -> b.linear(t, t, -1, 1, 1, factor), "[(< 1 2)]");
         }
-        Bench.due("61", Bench.outcome(() -> b.ledger.linear(t, -1, -1, 1, 0, 0)), Bench.NO_ROOM);
-        Bench.due("too great", Bench.outcome(() -> b.ledger.linear(great, -1, -1, 1, 0, 0)),
-                Bench.TOO_GREAT);
-        Bench.due("not granted", Bench.outcome(() -> b.ledger.linear(not, -1, -1, 1, 0, 0)),
-                Bench.WRONG);
+        b.refuses("they make nothing granted", () -> b.linear(t, -1, -1, 0, 5, 5), Bench.WRONG);
     }
 }

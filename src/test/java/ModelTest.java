@@ -5,6 +5,7 @@ import java.util.Random;
 import java.util.TreeMap;
 import java.util.function.IntSupplier;
 import java.util.function.Predicate;
+import java.util.function.ToIntFunction;
 
 /**
  * Long runs of calls, the same on the program and on the model; every answer must agree. An
@@ -12,7 +13,8 @@ import java.util.function.Predicate;
  */
 public final class ModelTest {
     private static final int RUNS = 400;
-    private static final int CALLS = 500;
+    /** The rest of the calls that an object may be used for is left for questions. */
+    private static final int MOST_CALLS = 480;
 
     private static final String NEVER_THROWING =
             "(sort|symbol|variable|draft|empty|scope|clause|look|text)\\b.*";
@@ -23,12 +25,13 @@ public final class ModelTest {
     private final Random random;
     private final Bench bench = new Bench();
     private final Model model = new Model();
+    private final List<ToIntFunction<Bench>> made = new ArrayList<>();
     private final int run;
+    private final int length;
     // What kind of run it is: one of many mistakes, one of deep terms, one of many scopes.
     private final boolean careless;
     private final boolean deep;
     private final boolean scoped;
-    private int calls = 0;
     private String latest = "";
     /** Nothing fits what was wished for: the call is left out, as too many throws end a run. */
     private boolean lacking = false;
@@ -36,6 +39,7 @@ public final class ModelTest {
     private ModelTest(int run) {
         this.run = run;
         random = new Random(run);
+        length = run % 3 == 0 ? 40 + random.nextInt(200) : MOST_CALLS - 20;
         careless = run % 8 == 0;
         deep = run % 8 == 1 || run % 8 == 2;
         scoped = run % 8 == 2 || run % 8 == 3;
@@ -72,18 +76,14 @@ public final class ModelTest {
 
     private void go() {
         signature();
-        while (calls < CALLS) {
+        while (bench.calls() < length) {
             oneCall(random.nextInt(100));
-            if (random.nextInt(25) == 0) {
-                compareAll();
-            }
         }
         compareAll();
     }
 
-    private void due(String call, IntSupplier program, IntSupplier plan) {
-        calls++;
-        if (lacking && !careless) {
+    private void due(String call, ToIntFunction<Bench> program, IntSupplier plan) {
+        if (lacking && !careless || bench.calls() >= MOST_CALLS) {
             return;
         }
         boolean throwing = !call.matches(NEVER_THROWING);
@@ -99,15 +99,16 @@ public final class ModelTest {
             }
         }
         latest = want;
-        String got = Bench.outcome(program::getAsInt);
-        Bench.due("run " + run + " call " + calls + ": " + call, got, want);
+        made.add(program);
+        String got = Bench.outcome(() -> program.applyAsInt(bench));
+        Bench.due("run " + run + " call " + bench.calls() + ": " + call, got, want);
         String kind = want.matches("\\d+") ? "a number" : want;
         seen.merge(call.replaceAll("\\(.*", "") + " " + kind, 1, Integer::sum);
     }
 
     private void signature() {
         for (int i = random.nextInt(4); i > 0; i--) {
-            due("sort()", bench.ledger::sort, model::sort);
+            due("sort()", Bench::sort, model::sort);
         }
         for (int v = 0; v < 3; v++) {
             if (random.nextBoolean() || deep) {
@@ -123,18 +124,18 @@ public final class ModelTest {
     }
 
     private void variable(int v, int sort) {
-        due("variable(" + v + ", " + sort + ")", () -> bench.ledger.variable(v, sort) ? 1 : 0,
+        due("variable(" + v + ", " + sort + ")", b -> b.variable(v, sort) ? 1 : 0,
                 () -> model.variable(v, sort) ? 1 : 0);
     }
 
     private void symbol(int sort, int first, int second) {
         due("symbol(" + sort + ", " + first + ", " + second + ")",
-                () -> bench.ledger.symbol(sort, first, second),
+                b -> b.symbol(sort, first, second),
                 () -> model.symbol(sort, first, second));
     }
 
     private void draft(long s) {
-        due("draft(" + s + ")", () -> bench.ledger.draft(s) ? 1 : 0,
+        due("draft(" + s + ")", b -> b.draft(s) ? 1 : 0,
                 () -> model.draft(s) ? 1 : 0);
     }
 
@@ -142,32 +143,35 @@ public final class ModelTest {
         for (int i = 0; i < text.length(); i += 8) {
             draft(Bench.packed(text.substring(i, Math.min(i + 8, text.length()))));
         }
-        due("term() of " + model.draft, bench.ledger::term, model::term);
+        due("term() of " + model.draft, Bench::term, model::term);
     }
 
     private void oneCall(int dice) {
         lacking = false;
+        if (scoped && random.nextInt(6) == 0) {
+            someScope(random.nextInt(3) > 0);
+        }
         if (dice < 22) {
             read(someText());
         } else if (dice < 30) {
             int t = any(n -> n.sort == 0);
-            due("assume(" + t + ")", () -> bench.ledger.assume(t), () -> model.assume(t));
+            due("assume(" + t + ")", b -> b.assume(t), () -> model.assume(t));
         } else if (dice < 40) {
             someCut();
         } else if (dice < 44) {
             int i = anyStep();
             int t = any(n -> n.sort == 0);
-            due("widen(" + i + ", " + t + ")", () -> bench.ledger.widen(i, t),
+            due("widen(" + i + ", " + t + ")", b -> b.widen(i, t),
                     () -> model.widen(i, t));
         } else if (dice < 51) {
             int t = any(n -> n.kind == 8 || n.kind == 9
                     || (n.kind == 5 && (n.part(0).sort == 0 || odd())));
             int which = odd() ? random.nextInt(8) - 2 : random.nextInt(3);
-            due("meaning(" + t + ", " + which + ")", () -> bench.ledger.meaning(t, which),
+            due("meaning(" + t + ", " + which + ")", b -> b.meaning(t, which),
                     () -> model.meaning(t, which));
         } else if (dice < 53) {
             int t = any(n -> true);
-            due("same(" + t + ")", () -> bench.ledger.same(t), () -> model.same(t));
+            due("same(" + t + ")", b -> b.same(t), () -> model.same(t));
         } else if (dice < 65) {
             someEquality(dice);
         } else if (dice < 75) {
@@ -183,19 +187,19 @@ public final class ModelTest {
 
     private void someScope(boolean opening) {
         if (opening || (scoped && random.nextInt(3) > 0)) {
-            due("open()", bench.ledger::open, model::open);
+            due("open()", Bench::open, model::open);
         } else if (model.innermost() != 0 || odd()) {
-            due("close()", bench.ledger::close, model::close);
+            due("close()", Bench::close, model::close);
         }
     }
 
     private void someQuestion() {
         switch (random.nextInt(6)) {
             case 0 -> draft(random.nextInt(4) == 0 ? random.nextLong() : random.nextInt(1 << 15));
-            case 1 -> due("empty()", bench.ledger::empty, model::empty);
+            case 1 -> due("empty()", Bench::empty, model::empty);
             case 2 -> variable(random.nextInt(5) - 1, random.nextInt(7) - 1);
             case 3 -> symbol(random.nextInt(7) - 1, random.nextInt(8) - 2, random.nextInt(8) - 2);
-            case 4 -> due("sort()", bench.ledger::sort, model::sort);
+            case 4 -> due("sort()", Bench::sort, model::sort);
             default -> compareOdd();
         }
     }
@@ -203,11 +207,10 @@ public final class ModelTest {
     private void compareOdd() {
         int t = random.nextInt(110) - 5;
         int k = random.nextInt(20) - 5;
-        due("look(" + t + ", " + k + ")", () -> bench.ledger.look(t, k), () -> model.look(t, k));
-        due("text(" + t + ", " + k + ")", () -> bench.ledger.text(t, k), () -> model.text(t, k));
-        due("clause(" + t + ", " + k + ")", () -> bench.ledger.clause(t, k),
-                () -> model.clause(t, k));
-        due("scope(" + t + ")", () -> bench.ledger.scope(t), () -> model.scope(t));
+        Question[] questions = {look(t, k), text(t, k), clause(t, k), scope(t)};
+        for (Question q : questions) {
+            due(q.name, q.call, q::want);
+        }
     }
 
     private void someCut() {
@@ -232,24 +235,24 @@ public final class ModelTest {
             return;
         }
         due("cut(" + c[0] + ", " + c[1] + ", " + c[2] + ")",
-                () -> bench.ledger.cut(c[0], c[1], c[2]), () -> model.cut(c[0], c[1], c[2]));
+                b -> b.cut(c[0], c[1], c[2]), () -> model.cut(c[0], c[1], c[2]));
     }
 
     private void someEquality(int dice) {
         int t = any(n -> n.kind == 5);
         if (dice < 56) {
-            due("turn(" + t + ")", () -> bench.ledger.turn(t), () -> model.turn(t));
+            due("turn(" + t + ")", b -> b.turn(t), () -> model.turn(t));
         } else if (dice < 60) {
             Model.Node n = node(t);
             int u = any(m -> m.kind == 5
                     && (n == null || n.kind != 5 || n.part(1).is(m.part(0))));
-            due("chain(" + t + ", " + u + ")", () -> bench.ledger.chain(t, u),
+            due("chain(" + t + ", " + u + ")", b -> b.chain(t, u),
                     () -> model.chain(t, u));
         } else {
             int p = any(n -> !n.parts.isEmpty() && n.kind != 10);
             Model.Node n = node(p);
             int q = any(m -> n == null || (m.kind == n.kind && m.name == n.name));
-            due("replace(" + p + ", " + q + ")", () -> bench.ledger.replace(p, q),
+            due("replace(" + p + ", " + q + ")", b -> b.replace(p, q),
                     () -> model.replace(p, q));
         }
     }
@@ -269,7 +272,7 @@ public final class ModelTest {
 
     private void linear(int t, int u, int v, int... f) {
         due("linear(" + t + ", " + u + ", " + v + ", " + f[0] + ", " + f[1] + ", " + f[2] + ")",
-                () -> bench.ledger.linear(t, u, v, f[0], f[1], f[2]),
+                b -> b.linear(t, u, v, f[0], f[1], f[2]),
                 () -> model.linear(t, u, v, f[0], f[1], f[2]));
     }
 
@@ -310,7 +313,7 @@ public final class ModelTest {
         int t = any(n -> n.kind == 10);
         Model.Node n = node(t);
         int u = any(m -> n == null || n.kind != 10 || m.sort == model.variables[n.name]);
-        due("instance(" + t + ", " + u + ")", () -> bench.ledger.instance(t, u),
+        due("instance(" + t + ", " + u + ")", b -> b.instance(t, u),
                 () -> model.instance(t, u));
     }
 
@@ -357,7 +360,7 @@ public final class ModelTest {
 
     private String someText() {
         if (deep && random.nextInt(6) == 0) {
-            return "(! x " + Bench.nots(random.nextInt(7), "(= x x)") + ")";
+            return "(! x " + Bench.nots(random.nextInt(10), "(= x x)") + ")";
         }
         if (random.nextInt(deep ? 4 : 30) == 0) {
             String text = Bench.nots(random.nextInt(deep ? 11 : 15), termOf(0, deep ? 3 : 1));
@@ -446,26 +449,64 @@ public final class ModelTest {
         }
     }
 
+    private record Question(String name, ToIntFunction<Bench> call, int want) {
+    }
+
+    /** Each question is asked of an object that has calls left for it. */
     private void compareAll() {
-        String at = "run " + run + " after call " + calls + ": ";
-        for (int what = 0; what < 3; what++) {
-            Bench.due(at + "look(-1, " + what + ")", bench.ledger.look(-1, what),
-                    model.look(-1, what));
+        Bench asked = bench;
+        for (Question q : questions()) {
+            if (asked.calls() >= Bench.MOST_CALLS) {
+                asked = replayed();
+            }
+            Bench.due("run " + run + " at the end: " + q.name, q.call.applyAsInt(asked), q.want);
         }
-        for (int t = 0; t < model.terms.size(); t++) {
-            Bench.due(at + "text of " + t, bench.text(t), model.terms.get(t).text);
+    }
+
+    /** All that can be asked of what is there, and a little more. */
+    private List<Question> questions() {
+        List<Question> all = new ArrayList<>();
+        all.add(new Question("empty()", Bench::empty, model.empty()));
+        for (int t = -1; t <= model.terms.size(); t++) {
             for (int what = 0; what < 6; what++) {
-                Bench.due(at + "look(" + t + ", " + what + ")", bench.ledger.look(t, what),
-                        model.look(t, what));
+                all.add(look(t, what));
+            }
+            for (int i = -1; i <= Math.max(model.text(t, -1), 0); i++) {
+                all.add(text(t, i));
             }
         }
-        for (int i = 0; i < model.steps.size(); i++) {
-            Bench.due(at + "scope(" + i + ")", bench.ledger.scope(i), model.scope(i));
-            for (int k = -1; k < 9; k++) {
-                Bench.due(at + "clause(" + i + ", " + k + ")", bench.ledger.clause(i, k),
-                        model.clause(i, k));
+        for (int i = -1; i <= model.steps.size(); i++) {
+            all.add(scope(i));
+            for (int k = -1; k <= Math.max(model.clause(i, -1), 0); k++) {
+                all.add(clause(i, k));
             }
         }
-        Bench.due(at + "empty()", bench.ledger.empty(), model.empty());
+        return all;
+    }
+
+    private Question look(int t, int what) {
+        return new Question("look(" + t + ", " + what + ")", b -> b.look(t, what),
+                model.look(t, what));
+    }
+
+    private Question text(int t, int i) {
+        return new Question("text(" + t + ", " + i + ")", b -> b.text(t, i), model.text(t, i));
+    }
+
+    private Question scope(int i) {
+        return new Question("scope(" + i + ")", b -> b.scope(i), model.scope(i));
+    }
+
+    private Question clause(int i, int k) {
+        return new Question("clause(" + i + ", " + k + ")", b -> b.clause(i, k),
+                model.clause(i, k));
+    }
+
+    private Bench replayed() {
+        Bench other = new Bench();
+        for (ToIntFunction<Bench> call : made) {
+            Bench.outcome(() -> call.applyAsInt(other));
+        }
+        return other;
     }
 }

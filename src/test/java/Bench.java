@@ -11,6 +11,8 @@ import java.util.StringJoiner;
  */
 final class Bench {
     static final int MOST_CALLS = 512;
+    static final int LOWEST = Integer.MIN_VALUE;
+    static final int HIGHEST = Integer.MAX_VALUE;
 
     static final String MISSING = "IndexOutOfBoundsException";
     static final String WRONG = "IllegalArgumentException";
@@ -251,6 +253,17 @@ final class Bench {
             step = widen(step, read(texts[i]));
         }
         return step;
+    }
+
+    /** linear() of up to three truths with their factors. */
+    Call linearOf(String[] texts, int... factors) {
+        int[] t = {-1, -1, -1};
+        int[] f = {0, 0, 0};
+        for (int i = 0; i < texts.length; i++) {
+            t[i] = read(texts[i]);
+            f[i] = factors[i];
+        }
+        return () -> linear(t[0], t[1], t[2], f[0], f[1], f[2]);
     }
 
     /** Reads constants that are not there until there are so many terms. */

@@ -1,6 +1,6 @@
 /** Promises 11 to 14, a sentence at a time: same, chain, turn, replace. */
 public final class EqualityTest {
-    private static final int[] NO_TERMS = {-1, 100, Integer.MIN_VALUE, Integer.MAX_VALUE};
+    private static final int[] NO_TERMS = {-1, 100, Bench.LOWEST, Bench.HIGHEST};
 
     public static void main(String[] args) {
         same();
@@ -207,6 +207,10 @@ public final class EqualityTest {
         int u = less.read("(= b c)");
         less.fillTermsTo(98);
         less.refuses("three terms more", () -> less.chain(t, u), Bench.NO_ROOM);
+        Bench once = bench();
+        int aa = once.read("(= a a)");
+        once.fillTermsTo(99);
+        once.enters(() -> once.chain(aa, aa), "[(~ (= a a)), (= a a)]");
     }
 
     private static void turning() {
@@ -372,5 +376,10 @@ public final class EqualityTest {
         fits.enters(() -> fits.replace(p, q),
                 "[(~ (= a b)), (~ (= b a)), (= (e a b) (e b a))]");
         Bench.due("terms", fits.termCount(), 100);
+        Bench once = bench();
+        int r = once.read("(e a a)");
+        int s = once.read("(e b b)");
+        once.fillTermsTo(97);
+        once.enters(() -> once.replace(r, s), "[(~ (= a b)), (= (e a a) (e b b))]");
     }
 }

@@ -1,6 +1,6 @@
 /** Promise 16, and what "Terms" says of putting a term for a variable, a sentence at a time. */
 public final class InstanceTest {
-    private static final int[] NO_TERMS = {-1, 100, Integer.MIN_VALUE, Integer.MAX_VALUE};
+    private static final int[] NO_TERMS = {-1, 100, Bench.LOWEST, Bench.HIGHEST};
 
     public static void main(String[] args) {
         Bench.holds("the opposite of t, and p with u put for v (p itself, if v is not free in"
@@ -98,6 +98,11 @@ public final class InstanceTest {
         becomes("(! z (! x (! y (c (+ x y) z))))", "a", "(! x (! y (c (+ x y) a)))");
         becomes("(! x (= (+ x (* 2 x)) (* 3 x)))", "(+ y 1)",
                 "(= (+ (+ y 1) (* 2 (+ y 1))) (* 3 (+ y 1)))");
+        becomes("(! x " + Bench.nots(8, "(= x 1)") + ")", "a", Bench.nots(8, "(= a 1)"));
+        becomes("(! x " + "(& e ".repeat(8) + "(= 1 x)" + ")".repeat(9), "a",
+                "(& e ".repeat(8) + "(= 1 a)" + ")".repeat(8));
+        becomes("(! x (! y (! z (~ (~ (~ (c (d (d x)) y)))))))", "a",
+                "(! y (! z (~ (~ (~ (c (d (d a)) y))))))");
     }
 
     private static void caught() {
@@ -229,7 +234,7 @@ public final class InstanceTest {
         less.refuses("three more", () -> less.instance(p, q), Bench.NO_ROOM);
     }
 
-    /** Which exception is due hangs on a part that comes after more terms than there is room for. */
+    /** What is due hangs on a part that comes after more terms than there is room for. */
     private static void farBeyondTheRoom() {
         Bench b = bench();
         int u = b.read("(d ".repeat(5) + "a" + ")".repeat(5));

@@ -1,8 +1,5 @@
 /** Promise 15, a sentence at a time: linear. What a sum is, is SumTest's matter. */
 public final class LinearTest {
-    private static final int LOWEST = Integer.MIN_VALUE;
-    private static final int HIGHEST = Integer.MAX_VALUE;
-
     public static void main(String[] args) {
         whichTruths();
         excesses();
@@ -45,6 +42,7 @@ public final class LinearTest {
         Bench.holds("sums are looked at with a factor 0, too;", LinearTest::sumsOfFactorZero);
         Bench.holds("if one is too great, it is not asked whether it is granted.",
                 LinearTest::tooGreatBeforeGranted);
+        Bench.holds("added in order to 0", LinearTest::eachCallBeginsAtZero);
     }
 
     private static void wrongOnes() {
@@ -68,14 +66,9 @@ public final class LinearTest {
 
     private static void due(String[] texts, String want, int... factors) {
         Bench b = bench();
-        int[] t = {-1, -1, -1};
-        for (int i = 0; i < texts.length; i++) {
-            t[i] = b.read(texts[i]);
-        }
+        Bench.Call call = b.linearOf(texts, factors);
         int terms = b.termCount();
-        Bench.due("linear " + String.join(", ", texts), b.entered(() -> b.linear(t[0], t[1], t[2],
-                factors[0], factors.length > 1 ? factors[1] : 0,
-                factors.length > 2 ? factors[2] : 0)), want);
+        Bench.due("linear " + String.join(", ", texts), b.entered(call), want);
         Bench.due("terms", b.termCount(), terms);
     }
 
@@ -108,10 +101,10 @@ public final class LinearTest {
     private static void numbersBelowZero() {
         Bench b = bench();
         int t = b.read("(< 1 2)");
-        for (int none : new int[] {-1, -2, LOWEST}) {
+        for (int none : new int[] {-1, -2, Bench.LOWEST}) {
             b.refuses("t " + none, () -> b.linear(none, t, t, 1, 1, 1), Bench.MISSING);
         }
-        for (int none : new int[] {-2, -3, LOWEST}) {
+        for (int none : new int[] {-2, -3, Bench.LOWEST}) {
             b.refuses("u " + none, () -> b.linear(t, none, -1, 1, 1, 1), Bench.MISSING);
             b.refuses("u " + none, () -> b.linear(t, none, t, 1, 1, 1), Bench.MISSING);
             b.refuses("v " + none, () -> b.linear(t, t, none, 1, 1, 1), Bench.MISSING);
@@ -123,7 +116,7 @@ public final class LinearTest {
     private static void noSuchTerms() {
         Bench b = bench();
         int t = b.read("(< 1 2)");
-        for (int none : new int[] {t + 1, 100, HIGHEST}) {
+        for (int none : new int[] {t + 1, 100, Bench.HIGHEST}) {
             b.refuses("t " + none, () -> b.linear(none, -1, -1, 1, 1, 1), Bench.MISSING);
             b.refuses("u " + none, () -> b.linear(t, none, -1, 1, 1, 1), Bench.MISSING);
             b.refuses("v " + none, () -> b.linear(t, t, none, 1, 1, 1), Bench.MISSING);
@@ -257,6 +250,27 @@ public final class LinearTest {
         due(of(great, great, great), Bench.TOO_GREAT, 0, 0, 0);
     }
 
+    /** No call leaves anything for the next. */
+    private static void eachCallBeginsAtZero() {
+        Bench b = bench();
+        int[] granted = {b.read("(< (+ a 1) (+ a 2))"), b.read("(< 1 2)"), b.read("(< b b)"),
+            b.read("(~ (< 2 1))"), b.read("(~ (= 1 2))")};
+        int[] not = {b.read("(~ (= a a))"), b.read("(~ (< 1 1))"), b.read("(< 2 1)"),
+            b.read("(~ (< b b))"), b.read("(< a b)")};
+        int great = b.read("(< (* 99999 99999) b)");
+        int steps = 0;
+        for (int t : granted) {
+            for (int u : not) {
+                Bench.answers("granted", () -> b.linear(t, -1, -1, 1, 0, 0), steps);
+                Bench.due("not granted", Bench.outcome(() -> b.linear(u, -1, -1, 1, 0, 0)),
+                        Bench.WRONG);
+                steps++;
+            }
+            Bench.due("too great", Bench.outcome(() -> b.linear(great, -1, -1, 1, 0, 0)),
+                    Bench.TOO_GREAT);
+        }
+    }
+
     private static void otherTruths() {
         String[] others = {"d", "(= 1 2)", "(= a a)", "(~ d)", "(~ (= d d))", "(~ (= f f))",
             "(~ (~ (< 1 2)))", "(~ (~ (= 1 2)))", "(& (< 1 2) (< 1 2))", "(! x (< 1 2))",
@@ -280,21 +294,21 @@ public final class LinearTest {
     }
 
     private static void factorsOutside() {
-        for (int factor : new int[] {100, -100, 1000, LOWEST, HIGHEST}) {
+        for (int factor : new int[] {100, -100, 1000, Bench.LOWEST, Bench.HIGHEST}) {
             wrong(of("(~ (= " + (factor > 0 ? "1 2" : "2 1") + "))"), factor);
             wrong(of("(< 1 2)", "(~ (= a a))"), 1, factor);
             wrong(of("(< 1 2)", "(< 1 3)", "(~ (= a a))"), 1, 1, factor);
         }
         wrong(of("(< 1 2)"), 100);
         wrong(of("(~ (< 2 1))"), 100);
-        wrong(of("(~ (< 2 1))"), HIGHEST);
+        wrong(of("(~ (< 2 1))"), Bench.HIGHEST);
         granted(of("(< 1 2)", "(~ (= a a))", "(~ (= b b))"), 99, -99, 99);
     }
 
     private static void factorsOfNoTruth() {
         Bench b = bench();
         int t = b.read("(< 1 2)");
-        for (int factor : new int[] {100, -1, -100, LOWEST, HIGHEST}) {
+        for (int factor : new int[] {100, -1, -100, Bench.LOWEST, Bench.HIGHEST}) {
             b.enters(() -> b.linear(t, -1, -1, 1, factor, factor), "[(< 1 2)]");
             b.enters(() -> b.linear(t, t, -1, 1, 1, factor), "[(< 1 2)]");
         }

@@ -1,8 +1,5 @@
 /** Promises 22 and 23, a sentence at a time: look, text. */
 public final class LookTest {
-    private static final int LOWEST = Integer.MIN_VALUE;
-    private static final int HIGHEST = Integer.MAX_VALUE;
-
     public static void main(String[] args) {
         Bench.holds("Of a term: what 0 its kind, 1 its sort, 2 its depth, 3 and 4 the numbers of"
                 + " its parts (-1 for none), 5 its symbol or variable (that of ! too), else -1.",
@@ -38,16 +35,16 @@ public final class LookTest {
         Bench b = new Bench();
         b.read("(+ x 1)");
         for (int what = 0; what <= 5; what++) {
-            for (int t : new int[] {3, -2, 100, LOWEST, HIGHEST}) {
+            for (int t : new int[] {3, -2, 100, Bench.LOWEST, Bench.HIGHEST}) {
                 Bench.due("term " + t + ", " + what, b.look(t, what), -2);
             }
         }
-        for (int what : new int[] {-1, 6, LOWEST, HIGHEST}) {
+        for (int what : new int[] {-1, 6, Bench.LOWEST, Bench.HIGHEST}) {
             Bench.due("what " + what, b.look(0, what), -2);
             Bench.due("what " + what + " of the last", b.look(2, what), -2);
             Bench.due("what " + what + " of none", b.look(3, what), -2);
         }
-        for (int what : new int[] {-1, 3, 4, 5, LOWEST, HIGHEST}) {
+        for (int what : new int[] {-1, 3, 4, 5, Bench.LOWEST, Bench.HIGHEST}) {
             Bench.due("what " + what + " of the ledger", b.look(-1, what), -2);
         }
     }
@@ -129,10 +126,10 @@ public final class LookTest {
         int t = b.read("(< -1/2 x)");
         Bench.due("the first", b.text(t, 0), (int) '(');
         Bench.due("the last", b.text(t, 9), (int) ')');
-        for (int i : new int[] {10, 11, -2, LOWEST, HIGHEST}) {
+        for (int i : new int[] {10, 11, -2, Bench.LOWEST, Bench.HIGHEST}) {
             Bench.due("character " + i, b.text(t, i), -2);
         }
-        for (int none : new int[] {t + 1, -1, -2, LOWEST, HIGHEST}) {
+        for (int none : new int[] {t + 1, -1, -2, Bench.LOWEST, Bench.HIGHEST}) {
             Bench.due("term " + none, b.text(none, 0), -2);
             Bench.due("length of term " + none, b.text(none, -1), -2);
             Bench.due("neither", b.text(none, -2), -2);

@@ -1,8 +1,5 @@
 /** Promise 10, a sentence at a time: meaning. */
 public final class MeaningTest {
-    private static final int LOWEST = Integer.MIN_VALUE;
-    private static final int HIGHEST = Integer.MAX_VALUE;
-
     public static void main(String[] args) {
         Bench.holds("& of p and q: which 0: o(t), p; 1: o(t), q; 2: t, o(p), o(q).",
                 () -> means("(& a b)", "[(~ (& a b)), a]", "[(~ (& a b)), b]",
@@ -87,7 +84,7 @@ public final class MeaningTest {
         int and = b.read("(& a b)");
         int or = b.read("(| a b)");
         int equal = b.read("(= a b)");
-        for (int which : new int[] {-1, 4, 5, LOWEST, HIGHEST}) {
+        for (int which : new int[] {-1, 4, 5, Bench.LOWEST, Bench.HIGHEST}) {
             b.refuses("& " + which, () -> b.meaning(and, which), Bench.WRONG);
             b.refuses("| " + which, () -> b.meaning(or, which), Bench.WRONG);
             b.refuses("= " + which, () -> b.meaning(equal, which), Bench.WRONG);
@@ -100,7 +97,7 @@ public final class MeaningTest {
     private static void noTerm() {
         Bench b = bench();
         b.read("(& a b)");
-        for (int none : new int[] {3, -1, 100, LOWEST, HIGHEST}) {
+        for (int none : new int[] {3, -1, 100, Bench.LOWEST, Bench.HIGHEST}) {
             b.refuses("term " + none, () -> b.meaning(none, 0), Bench.MISSING);
         }
     }

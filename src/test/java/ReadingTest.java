@@ -78,6 +78,7 @@ public final class ReadingTest {
         Bench.holds("(+ t u), (* c t), (= t u), (< t u), (~ t), (& t u), (| t u), (! v t)",
                 () -> isNoText("(~)", "(~ )", "(~ a a)", "(& a)", "(& a a a)", "(+ b)", "+ b b",
                         "(+ b b b)", "(= b)", "(< b)", "(| a)", "(* 2)", "(- b b)", "(> b b)",
+                        "(? a a)", "(- a a)", "(x a a)", "(A a a)", "(1 a a)", "( a a)", "(m a)",
                         "()", "(", ")", "((~ a))", "(1)", "(x)", "(!", "(! ", "(! w a)", "~ a"));
         Bench.holds("with just one blank where one is shown;",
                 () -> isNoText("(~a)", "(~  a)", "( ~ a)", "(~ a )", " a", "a ", "(~ a) ",
@@ -116,7 +117,7 @@ public final class ReadingTest {
                 + " too).", ReadingTest::noSymbolNoDraft);
     }
 
-    /** a is a truth, b a number, c of sort 2; d: 2 to 2; e: 2, 1 to truths; f: truths to numbers. */
+    /** a is a truth, b a number, c of sort 2; d: 2 to 2; e: 2 and 1 to 0; f: 0 to 1; z of 2. */
     private static Bench bench() {
         Bench b = new Bench();
         int two = b.sort();
@@ -254,6 +255,9 @@ public final class ReadingTest {
         b.refuses("one more of parts that are there", b::term, Bench.NO_ROOM);
         Bench.due("one that is there", b.read("(+ 1 2)"), 99);
         Bench.due("a hundred", b.termCount(), 100);
+        Bench c = bench();
+        c.fillTermsTo(98);
+        Bench.due("two more, one of them twice", c.read("(+ 1 1)"), 99);
     }
 
     private static void brackets() {

@@ -1,8 +1,5 @@
 /** Promises 17, 18, 20 and 21, a sentence at a time: open, close, scope, empty. */
 public final class ScopeTest {
-    private static final int LOWEST = Integer.MIN_VALUE;
-    private static final int HIGHEST = Integer.MAX_VALUE;
-
     public static void main(String[] args) {
         open();
         close();
@@ -381,6 +378,11 @@ public final class ScopeTest {
         c.open();
         c.assume(c.clause(2, 0));
         c.enters(c::close, "[a, (~ a)]");
+        Bench once = bench();
+        once.open();
+        once.fillStepsTo(3, once.read("a"));
+        once.fillTermsTo(99);
+        once.enters(once::close, "[(~ a), a]");
     }
 
     private static void closeWithoutSteps() {
@@ -434,7 +436,7 @@ public final class ScopeTest {
         Bench.due("no step at all", b.scope(0), -1);
         b.assume("a");
         b.open();
-        for (int none : new int[] {1, -1, 60, LOWEST, HIGHEST}) {
+        for (int none : new int[] {1, -1, 60, Bench.LOWEST, Bench.HIGHEST}) {
             Bench.due("step " + none, b.scope(none), -1);
         }
     }

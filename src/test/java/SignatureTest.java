@@ -1,8 +1,5 @@
 /** Promises 1 to 4, a sentence at a time: a new object, sort, symbol, variable. */
 public final class SignatureTest {
-    private static final int LOWEST = Integer.MIN_VALUE;
-    private static final int HIGHEST = Integer.MAX_VALUE;
-
     public static void main(String[] args) {
         newObject();
         sorts();
@@ -108,6 +105,18 @@ public final class SignatureTest {
         }
         Bench.due("m", b.reading("m"), Bench.WRONG);
         Bench.due("before a", b.reading("`"), Bench.WRONG);
+        Bench c = new Bench();
+        for (int i = 0; i < 12; i++) {
+            c.symbol(1, 1, i % 2 == 0 ? -1 : 1);
+        }
+        for (int i = 0; i < 12; i++) {
+            String text = "(" + (char) ('a' + i) + (i % 2 == 0 ? " 0)" : " 0 0)");
+            int t = c.read(text);
+            Bench.due(text, c.looks(t), "0 1 2 0 " + (i % 2 == 0 ? -1 : 0) + " " + i);
+            Bench.due("text", c.textOf(t), text);
+        }
+        Bench.due("m", c.reading("(m 0)"), Bench.WRONG);
+        Bench.due("before a", c.reading("(` 0)"), Bench.WRONG);
     }
 
     private static void argumentsOfSymbols() {
@@ -130,7 +139,7 @@ public final class SignatureTest {
 
     private static void symbolOfNoSort() {
         Bench b = new Bench();
-        for (int sort : new int[] {-1, 2, -2, 5, LOWEST, HIGHEST}) {
+        for (int sort : new int[] {-1, 2, -2, 5, Bench.LOWEST, Bench.HIGHEST}) {
             Bench.due("sort " + sort, b.symbol(sort, -1, -1), -1);
             Bench.due("sort " + sort, b.symbol(sort, 0, 1), -1);
         }
@@ -139,7 +148,7 @@ public final class SignatureTest {
 
     private static void argumentsOfNoSort() {
         Bench b = new Bench();
-        for (int sort : new int[] {2, -2, 5, LOWEST, HIGHEST}) {
+        for (int sort : new int[] {2, -2, 5, Bench.LOWEST, Bench.HIGHEST}) {
             Bench.due("first " + sort, b.symbol(0, sort, -1), -1);
             Bench.due("first " + sort, b.symbol(0, sort, 0), -1);
             Bench.due("second " + sort, b.symbol(0, 0, sort), -1);
@@ -192,7 +201,7 @@ public final class SignatureTest {
 
     private static void noSuchVariable() {
         Bench b = new Bench();
-        for (int v : new int[] {-1, 3, LOWEST, HIGHEST}) {
+        for (int v : new int[] {-1, 3, Bench.LOWEST, Bench.HIGHEST}) {
             Bench.due("variable " + v, b.variable(v, 0), false);
         }
         Bench.due("x", b.look(b.read("x"), 1), 1);
@@ -201,7 +210,7 @@ public final class SignatureTest {
 
     private static void variableOfNoSort() {
         Bench b = new Bench();
-        for (int sort : new int[] {-1, 2, 5, LOWEST, HIGHEST}) {
+        for (int sort : new int[] {-1, 2, 5, Bench.LOWEST, Bench.HIGHEST}) {
             Bench.due("sort " + sort, b.variable(0, sort), false);
         }
         Bench.due("x", b.look(b.read("x"), 1), 1);

@@ -1,8 +1,5 @@
 /** Promises 7, 8, 9 and 19, a sentence at a time: assume, cut, widen, clause. */
 public final class StepTest {
-    private static final int LOWEST = Integer.MIN_VALUE;
-    private static final int HIGHEST = Integer.MAX_VALUE;
-
     public static void main(String[] args) {
         assume();
         cut();
@@ -20,6 +17,8 @@ public final class StepTest {
         Bench.holds("something has not the form or sort that is asked for",
                 StepTest::assumingNoTruth);
         Bench.holds("STEPS are numbered 0, 1, .., at most 60;", StepTest::sixtySteps);
+        Bench.holds("at most 60; each has a clause", StepTest::sixtiethStep);
+        Bench.holds("IllegalStateException: there would be no room", StepTest::hundredTerms);
     }
 
     private static void cut() {
@@ -101,7 +100,7 @@ public final class StepTest {
     private static void assumingNoTerm() {
         Bench b = bench();
         b.read("(~ a)");
-        for (int t : new int[] {2, -1, 99, 100, LOWEST, HIGHEST}) {
+        for (int t : new int[] {2, -1, 99, 100, Bench.LOWEST, Bench.HIGHEST}) {
             b.refuses("term " + t, () -> b.assume(t), Bench.MISSING);
         }
         b.enters(() -> b.assume(1), "[(~ a)]");
@@ -153,6 +152,32 @@ public final class StepTest {
         Bench.due("steps", b.stepCount(), 60);
         Bench.due("terms are read all the same", b.textOf(b.read("(~ a)")), "(~ a)");
         Bench.due("scopes are opened all the same", b.open(), 2);
+    }
+
+    private static void sixtiethStep() {
+        Bench b = bench();
+        int i = b.step("a", "b", "c", "d", "e", "f", "g", "h");
+        int h = b.read("h");
+        b.fillStepsTo(58, b.read("k"));
+        b.enters(() -> b.widen(i, h), "[a, b, c, d, e, f, g, h]");
+        b.enters(() -> b.widen(i, 0), "[a, b, c, d, e, f, g, h]");
+        Bench.due("step 57 is what it was", b.clauseOf(57), "[k]");
+        Bench.due("truth 8 of the last", b.clause(59, 8), -1);
+        Bench.due("a step behind it", b.clause(60, 0), -1);
+    }
+
+    /** Rules that make no terms go on when there are a hundred. */
+    private static void hundredTerms() {
+        Bench b = bench();
+        int i = b.step("a", "b");
+        int j = b.step("(~ a)");
+        int less = b.read("(< 1 2)");
+        b.fillTermsTo(100);
+        b.enters(() -> b.assume(0), "[a]");
+        b.enters(() -> b.widen(j, 1), "[(~ a), b]");
+        b.enters(() -> b.cut(i, 0, j), "[b]");
+        b.enters(() -> b.linear(less, -1, -1, 1, 0, 0), "[(< 1 2)]");
+        Bench.due("terms", b.termCount(), 100);
     }
 
     private static void cutting() {
@@ -246,12 +271,12 @@ public final class StepTest {
         int i = b.step("a");
         int j = b.step("(~ a)");
         int a = b.read("a");
-        for (int none : new int[] {j + 1, -1, 60, LOWEST, HIGHEST, closed}) {
+        for (int none : new int[] {j + 1, -1, 60, Bench.LOWEST, Bench.HIGHEST, closed}) {
             b.refuses("step i " + none, () -> b.cut(none, a, j), Bench.MISSING);
             b.refuses("step j " + none, () -> b.cut(i, a, none), Bench.MISSING);
         }
         int terms = b.termCount();
-        for (int none : new int[] {terms, -1, LOWEST, HIGHEST}) {
+        for (int none : new int[] {terms, -1, Bench.LOWEST, Bench.HIGHEST}) {
             b.refuses("term " + none, () -> b.cut(i, none, j), Bench.MISSING);
         }
         b.enters(() -> b.cut(i, a, j), "[]");
@@ -320,11 +345,11 @@ public final class StepTest {
         b.close();
         int i = b.step("a");
         int a = b.read("a");
-        for (int none : new int[] {i + 1, -1, 60, LOWEST, HIGHEST, closed}) {
+        for (int none : new int[] {i + 1, -1, 60, Bench.LOWEST, Bench.HIGHEST, closed}) {
             b.refuses("step " + none, () -> b.widen(none, a), Bench.MISSING);
         }
         int terms = b.termCount();
-        for (int none : new int[] {terms, -1, LOWEST, HIGHEST}) {
+        for (int none : new int[] {terms, -1, Bench.LOWEST, Bench.HIGHEST}) {
             b.refuses("term " + none, () -> b.widen(i, none), Bench.MISSING);
         }
     }
@@ -364,14 +389,14 @@ public final class StepTest {
         int not = b.step("(~ a)");
         int a = b.read("a");
         int empty = b.cut(0, a, not);
-        for (int k : new int[] {8, 9, -2, LOWEST, HIGHEST}) {
+        for (int k : new int[] {8, 9, -2, Bench.LOWEST, Bench.HIGHEST}) {
             Bench.due("truth " + k + " of eight", b.clause(i, k), -1);
         }
         for (int k : new int[] {1, 2, -2}) {
             Bench.due("truth " + k + " of one", b.clause(0, k), -1);
         }
         Bench.due("truth 0 of none", b.clause(empty, 0), -1);
-        for (int none : new int[] {empty + 1, -1, -2, 60, LOWEST, HIGHEST}) {
+        for (int none : new int[] {empty + 1, -1, -2, 60, Bench.LOWEST, Bench.HIGHEST}) {
             for (int k : new int[] {-2, -1, 0, 1}) {
                 Bench.due("truth " + k + " of step " + none, b.clause(none, k), -1);
             }

@@ -5,6 +5,7 @@ public final class SumTest {
         Bench.holds("Of an atom: 1 times it; of a constant: that;", SumTest::atomsAndConstants);
         Bench.holds("of +: the second's added to the first's;", SumTest::plus);
         Bench.holds("of *: the second's, each multiplied by the constant.", SumTest::times);
+        Bench.holds("in it or in one that it is worked out of", SumTest::deepSums);
         Bench.holds("It is exact.", SumTest::exact);
         Bench.holds("has p below -10^9 or above 10^9 or q above 10^9.",
                 SumTest::constantsAtTheLimit);
@@ -37,14 +38,7 @@ public final class SumTest {
     }
 
     private static String linear(String[] texts, int... factors) {
-        Bench b = bench();
-        int[] t = {-1, -1, -1};
-        int[] f = {0, 0, 0};
-        for (int i = 0; i < texts.length; i++) {
-            t[i] = b.read(texts[i]);
-            f[i] = factors[i];
-        }
-        return Bench.outcome(() -> b.linear(t[0], t[1], t[2], f[0], f[1], f[2]));
+        return Bench.outcome(bench().linearOf(texts, factors));
     }
 
     private static void granted(String[] texts, int... factors) {
@@ -117,6 +111,21 @@ public final class SumTest {
         equal("(* 2/3 (* 3/2 a))", "a");
         equal("(* 5 3)", "15");
         equal("(* 2 (* 3 (* 4 (+ a 1))))", "(+ 24 (* 24 a))");
+    }
+
+    /** A number in a truth of depth 12 is 11 deep; what lies at its bottom counts. */
+    private static void deepSums() {
+        String[][] pairs = {
+            {"(+ a ".repeat(10) + "b" + ")".repeat(10), "(+ (* 10 a) b)"},
+            {"(+ ".repeat(10) + "b" + " a)".repeat(10), "(+ (* 10 a) b)"},
+            {"(* 2 ".repeat(10) + "b" + ")".repeat(10), "(* 1024 b)"},
+            {"(* -1 (+ 1 ".repeat(5) + "a" + "))".repeat(5), "(+ -1 (* -1 a))"}};
+        for (String[] pair : pairs) {
+            granted(of("(< " + pair[0] + " " + pair[1] + ")"), 1);
+            granted(of("(< " + pair[1] + " " + pair[0] + ")"), 1);
+            wrong(of("(< " + pair[0] + " 0)"), 1);
+        }
+        tooGreat(of("(< 0 " + "(* 0 ".repeat(9) + ABOVE + ")".repeat(10)), 1);
     }
 
     private static void exact() {

@@ -7,6 +7,7 @@ public final class ThrowTest {
         Bench.holds("A call that throws changes nothing (and makes no terms)",
                 ThrowTest::nothingIsChangedWithoutRoom);
         Bench.holds("(and makes no terms)", ThrowTest::numbersGoOn);
+        Bench.holds("(and makes no terms)", ThrowTest::nothingIsLeftOfTrials);
         Bench.holds("A call that throws changes nothing", ThrowTest::draftStays);
         Bench.holds("After 60 calls that have thrown the ledger is SHUT",
                 ThrowTest::sixtyThrows);
@@ -322,6 +323,24 @@ public final class ThrowTest {
         Bench.due("the next term", b.read("5"), next);
         Bench.due("one that a call would have made", b.read("(+ 1 2)"), next + 3);
         Bench.due("its parts are new", b.textOf(next + 1) + b.textOf(next + 2), "12");
+    }
+
+    /** Terms that a call would have made leave no mark on those that get their numbers. */
+    private static void nothingIsLeftOfTrials() {
+        String[] trials = {"(+ x a)", "(& (< x x) b)", "(~ (! x x))", "(+ (* 3/4 x) a)",
+            Bench.nots(12, "(< x x)"), "(= (! x (< x y)) x)"};
+        for (String trial : trials) {
+            Bench b = bench();
+            Bench.due(trial, b.reading(trial).endsWith("Exception"), true);
+            int t = b.read("(! x (& (< 7 x) (| (= -1/3 b) a)))");
+            String[] texts = {"7", "x", "(< 7 x)", "-1/3", "b", "(= -1/3 b)", "a"};
+            for (int i = 0; i < texts.length; i++) {
+                Bench.due("text", b.textOf(i), texts[i]);
+            }
+            b.enters(() -> b.instance(t, 4), "[(~ " + b.textOf(t)
+                    + "), (& (< 7 b) (| (= -1/3 b) a))]");
+            Bench.due("7", b.looks(0), "2 1 1 -1 -1 -1");
+        }
     }
 
     private static void draftStays() {

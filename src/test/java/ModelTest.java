@@ -358,7 +358,20 @@ public final class ModelTest {
         return fitting.isEmpty() ? 0 : fitting.get(random.nextInt(fitting.size()));
     }
 
+    /** One ! in another, with what is free and what is not; at times of one variable. */
+    private String nested() {
+        char v = "xyz".charAt(random.nextInt(3));
+        char w = "xyz".charAt(random.nextInt(3));
+        String p = of("=", String.valueOf(v), String.valueOf(v));
+        String q = of("=", String.valueOf(w), String.valueOf(w));
+        String inner = "(! " + w + " " + (random.nextBoolean() ? p : of("&", q, p)) + ")";
+        return "(! " + v + " " + (random.nextBoolean() ? inner : of("|", q, inner)) + ")";
+    }
+
     private String someText() {
+        if (random.nextInt(12) == 0) {
+            return nested();
+        }
         if (deep && random.nextInt(6) == 0) {
             return "(! x " + Bench.nots(random.nextInt(10), "(= x x)") + ")";
         }

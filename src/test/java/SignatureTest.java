@@ -92,6 +92,11 @@ public final class SignatureTest {
         Bench.due("once more", b.sort(), -1);
         Bench.due("sort 4 is there", b.symbol(4, 4, 4), 0);
         Bench.due("sort 5 is not", b.symbol(5, -1, -1), -1);
+        Bench c = new Bench();
+        c.read("(+ x 1)");
+        Bench.due("when there are terms, too", c.sort(), 2);
+        Bench.due("a symbol of it", c.symbol(2, -1, -1), 0);
+        Bench.due("a term of it", c.look(c.read("a"), 1), 2);
         Bench.due("nor for a variable", b.variable(0, 5), false);
     }
 
@@ -229,5 +234,9 @@ public final class SignatureTest {
         Bench.due("x", b.look(b.read("x"), 1), 0);
         Bench.due("y", b.look(b.read("y"), 1), 1);
         Bench.due("z", b.look(b.read("z"), 1), 0);
+        Bench c = new Bench();
+        c.read("1");
+        Bench.due("for a variable that is in no term", c.variable(0, 0), false);
+        Bench.due("x", c.look(c.read("x"), 1), 1);
     }
 }

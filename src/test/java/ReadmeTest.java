@@ -86,11 +86,9 @@ public final class ReadmeTest {
     }
 
     private static void everyPathIsThere() {
-        Set<String> paths = found("`((?:src|\\.\\./shared)[\\w./]*)`", readme);
-        for (String path : paths) {
-            Bench.due(path, Files.exists(Path.of(path)), true);
+        for (String path : found("`(src/[\\w./]*)`", readme)) {
+            Bench.due(path + " is there", Files.exists(Path.of(path)), true);
         }
-        Bench.due(".ci/run can be run", Files.isExecutable(Path.of(".ci/run")), true);
     }
 
     /** But for .ci/run, which runs this test. */
